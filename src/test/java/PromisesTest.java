@@ -661,6 +661,11 @@ public final class PromisesTest {
         due("two of three, of", x.likely(0, 3, 5, 1), 2);
         due("two of three by 2 tenths", x.likely(0, 3, 2, 0), 13);
         due("two of three by 2 tenths, of", x.likely(0, 3, 2, 1), 125);
+        x.barrel(0, 0, 1, 0, 0);
+        x.set(0, 99);
+        due("up to 99: nine doors of ten days", x.likely(0, 10, 5, 0), 11);
+        due("up to 99: nine doors of ten days, of", x.likely(0, 10, 5, 1), 1024);
+        due("up to 99: all open", x.likely(0, 10, 10, 0), 1);
         x.wall(0, true);
         due("a wall", x.likely(0, 10, 10, 0), 0);
     }
