@@ -18,6 +18,8 @@ public final class CellarTides {
     private static final int MOST_PLANNED = 4;
     private static final int MOST_SHIFT_DIGITS = 12;
     private static final int IMAGES = 2;
+    /** More than all moves of a full pad can want together. */
+    private static final int HANDS_FOR_ALL = 1000000;
 
     private static final int LAST_DAY = 999;
     private static final int LAST_OPENING = 99;
@@ -226,7 +228,7 @@ public final class CellarTides {
     }
 
     public int hands() {
-        if (!followPad(Integer.MAX_VALUE)) {
+        if (!followPad(HANDS_FOR_ALL)) {
             return NO;
         }
         return course.why != 0 ? NONE : course.mostDayWork;

@@ -907,14 +907,15 @@ public final class EdgesTest {
         x.cellar(5, 0, 8);
         x.cellar(5, 1, 2);
         x.wall(5, true);
-        for (int b = 0; b < 8; b++) x.barrel(b, 0, b + 1, 0, 0);
+        for (int b = 0; b < 8; b++) x.barrel(b, 0, b + 1, b == 1 ? 9 : 0, 0);
         for (int i = 0; i < 5; i++) x.seen(0, i, 0);
         x.seen(7, 30, 7);
         x.image(0);
         x.cellars(1);
-        Bench.table(x, "1");
+        Bench.table(x, "1".repeat(30));
         x.barrel(7, 0, 1, 9, 1);
-        for (int i = 0; i < 6; i++) x.seen(7, 20, 20);
+        x.barrel(1, 0, 1, 0, 0);
+        for (int i = 0; i < 6; i++) x.seen(1, 20, 20);
         x.restore(0);
         due("the last digit", x.level(29), 7);
         due("the last cellar's depth", x.told(15), 8);
