@@ -18,7 +18,7 @@ public final class EdgesTest {
         pouredByTwos(); pouredCut(); pouredKinds(); pouredFirst(); pouredOnce(); pouredAll();
         doorsAboveNine(); doorsBelowDepth(); doorsAndWalls(); fractions(); fractionsOfTen(); meanOfMany();
         wallsAsBits(); moonsAsBits(); openDays(); sightsOfSeveral(); sightsOfWhatGoes();
-        shiftsFewest(); shiftsByLevel(); droughts(); years(); yearsUpTo99();
+        shiftsFewest(); shiftsAnew(); shiftsByLevel(); droughts(); years(); yearsUpTo99();
         cellarsAsAtFirst(); imagesKeepAll(); imagesStand(); settingsApart();
         bench.end();
     }
@@ -780,6 +780,18 @@ public final class EdgesTest {
         due("rows of six: 0 and 6", x.shifts(0, 6, 1), 1 + 64);
         due("rows of eleven: 0 and 1", x.shifts(0, 11, 1), 3);
         due("rows of seven: 0 and 5", x.shifts(0, 7, 1), 1 + 32);
+    }
+
+    /** What was asked of a longer table, or of longer rows, is nothing to a shorter one. */
+    private static void shiftsAnew() {
+        begin("999999999999");
+        due("one wakes all twelve", x.shifts(9, 30, 0), 1);
+        for (int length = 12; length >= 1; length--) {
+            Bench.table(x, "9".repeat(length));
+            due("by ones, of " + length, x.shifts(9, 1, 0), length);
+            due("by ones, days of " + length, x.shifts(9, 1, 1), (1 << length) - 1);
+            due("one wakes all of " + length, x.shifts(9, 30, 1), 1);
+        }
     }
 
     private static void shiftsByLevel() {
