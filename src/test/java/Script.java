@@ -42,6 +42,9 @@ final class Script {
 
     int calls() { return calls; }
 
+    /** The object of the last run, as that left it. */
+    CellarTides town() { return x; }
+
     private void step(String step) {
         if (step.matches("\\d+\\* .*")) {
             int times = Integer.parseInt(step.substring(0, step.indexOf('*')));
